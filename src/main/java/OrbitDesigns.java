@@ -18,7 +18,8 @@ public final class OrbitDesigns {
     private static final int FIRST_SIZE = 2;
     private static final int SHIFT_KIND = 0, MIRROR = 1, TIMES = 2, SWAP = 3, BUT_ONE = 4, HAND = 5;
     private static final int MOST_WAYS = 4, MOST_FIGURE = 9, LONGEST_PERIOD = 15;
-    private static final int MOST_ORDER = 500, ORDER_SLOTS = 1024, ORDER_MIX = 0x9E3779B1;
+    /** A product with the mix, moved down by the shift, is the number of one of the slots. */
+    private static final int MOST_ORDER = 500, ORDER_SLOTS = 1024, ORDER_MIX = 0x9E3779B1, ORDER_SHIFT = 22;
     /** There are 70 sets of 4 of 8 POINTS, and of no size are there more. */
     private static final int MOST_ORBITS = 70;
     private static final int MOST_COLUMNS = 14, MOST_AIM = 70, CHOICE_BITS = 31;
@@ -237,7 +238,7 @@ public final class OrbitDesigns {
 
     public int parted(int p, int what) {
         if (!now.isPoint(p) || what < 0 || what > 2) return NONE;
-        if (what == 2 && now.blocks.size == now.n) return ABSENT;
+        // Where K is n there are none WITHOUT the POINT: that case needs no look of its own.
         oneScratch.becomePart(now.blocks, 1 << p, what < 2);
         if (what == 0) return oneScratch.amount;
         if (oneScratch.amount == 0) return ABSENT;
@@ -268,14 +269,14 @@ public final class OrbitDesigns {
         Blocks second = now.designAt(other);
         if (first == null || second == null) return NONE;
         if (now.n > MOST_MATCHED_POINTS) return STATE;
-        return matcher.waysBetween(first, second, now.n, 1);
+        return matcher.areAlike(first, second, now.n) ? 1 : 0;
     }
 
     public int selves(int design) {
         Blocks asked = now.designAt(design);
         if (asked == null) return NONE;
         if (now.n > MOST_MATCHED_POINTS) return STATE;
-        return matcher.waysBetween(asked, asked, now.n, Integer.MAX_VALUE);
+        return matcher.selvesOf(asked, now.n);
     }
 
     public int unlike(int t, int k, int m) {
@@ -438,7 +439,7 @@ public final class OrbitDesigns {
         oneScratch.becomeChoice(found, k, choices.earlySolution(i));
         for (int earlier = 0; earlier < i; earlier++) {
             otherScratch.becomeChoice(found, k, choices.earlySolution(earlier));
-            if (matcher.waysBetween(oneScratch, otherScratch, now.n, 1) > 0) return true;
+            if (matcher.areAlike(oneScratch, otherScratch, now.n)) return true;
         }
         return false;
     }
@@ -911,7 +912,7 @@ public final class OrbitDesigns {
         }
 
         private void enter(int code) {
-            int slot = code * ORDER_MIX >>> 22;
+            int slot = code * ORDER_MIX >>> ORDER_SHIFT;
             for (int tries = 0; tries < slots.length; tries++) {
                 if (slot < 0 || slot >= slots.length) slot = 0;
                 if (slots[slot] == code) return;
@@ -959,19 +960,25 @@ public final class OrbitDesigns {
         void load(Orbits orbits, int t, int k) {
             rows = Math.min(orbits.amountOf(t), MOST_ORBITS);
             columns = Math.min(orbits.amountOf(k), MOST_COLUMNS);
+            Arrays.fill(numbers, 0);
+            Arrays.fill(coverers, 0);
             for (int j = 0; j < columns && j < sets.length; j++) sets[j] = orbits.setsIn(k, j);
             for (int i = 0; i < rows; i++) loadRow(orbits, k, i, orbits.setAt(t, i, 0));
         }
 
         private void loadRow(Orbits orbits, int k, int row, int inner) {
-            if (row < 0 || row >= coverers.length) return;
-            coverers[row] = 0;
-            for (int j = 0; j < columns; j++) {
-                int place = row * MOST_COLUMNS + j;
-                int holding = orbits.setsAround(k, j, inner);
-                if (place < numbers.length) numbers[place] = holding;
-                if (holding > 0) coverers[row] |= 1 << j;
+            for (int set = 0; set < MOST_SETS; set++) {
+                if ((set & inner) == inner && Integer.bitCount(set) == k) {
+                    countSet(row, orbits.numberOf(set));
+                }
             }
+        }
+
+        private void countSet(int row, int column) {
+            if (row < 0 || row >= coverers.length || column < 0 || column >= columns) return;
+            int place = row * MOST_COLUMNS + column;
+            if (place < numbers.length) numbers[place]++;
+            coverers[row] |= 1 << column;
         }
 
         private int numberAt(int row, int column) {
@@ -1067,20 +1074,41 @@ public final class OrbitDesigns {
             placed = new int[MOST_SETS];
         }
 
-        /** How many there are; it stops at as many as are enough. */
-        int waysBetween(Blocks one, Blocks other, int n, int enough) {
-            return place(one, other, n, 0, 0, enough);
+        boolean areAlike(Blocks one, Blocks other, int n) {
+            return canPlace(one, other, n, 0, 0);
         }
 
-        private int place(Blocks one, Blocks other, int n, int p, int used, int enough) {
-            if (p >= n || p >= MOST_POINTS) return 1;
-            int ways = 0;
-            for (int to = 0; to < n && ways < enough; to++) {
-                if ((used >> to & 1) == 0 && fits(one, other, p, to)) {
-                    ways += place(one, other, n, p + 1, used | 1 << to, enough - ways);
+        /**
+         * Where each POINT can go while all ahead of it stay, multiplied: to look for one way for each
+         * of these is far less than to count all ways.
+         */
+        int selvesOf(Blocks blocks, int n) {
+            int ways = 1;
+            int staying = 0;
+            for (int p = 0; p < n && p < MOST_POINTS; p++) {
+                int goals = 0;
+                for (int to = p; to < n; to++) {
+                    boolean goes = fits(blocks, blocks, p, to)
+                            && canPlace(blocks, blocks, n, p + 1, staying | 1 << to);
+                    if (goes) goals++;
                 }
+                ways *= goals;
+                fits(blocks, blocks, p, p);
+                staying |= 1 << p;
             }
             return ways;
+        }
+
+        /** Whether POINTS from p on can be placed on those not used; p tells the depth. */
+        private boolean canPlace(Blocks one, Blocks other, int n, int p, int used) {
+            if (p >= n || p >= MOST_POINTS) return true;
+            for (int to = 0; to < n; to++) {
+                boolean open = (used >> to & 1) == 0;
+                if (open && fits(one, other, p, to) && canPlace(one, other, n, p + 1, used | 1 << to)) {
+                    return true;
+                }
+            }
+            return false;
         }
 
         /** Whether all sets of the POINTS 0 .. p are BLOCKS on both sides or on none, if p goes there. */
@@ -1237,7 +1265,7 @@ public final class OrbitDesigns {
 
         void become(int newSort, int newLength) {
             sort = newSort;
-            length = newLength;
+            length = Math.max(0, Math.min(newLength, items.length));
             Arrays.fill(items, 0L);
         }
 

@@ -166,7 +166,17 @@ public final class ChoicesTest {
         x.way(0, 2);
         DUE.is("some solve", x.solved(1, 2, 2, 0), 4);
         DUE.is("unlike ones", x.unlike(1, 2, 2), 2);
+        x.points(5);
+        x.way(3, 0);
+        DUE.is("24 solve", x.solved(0, 2, 5, 0), 24);
+        DUE.is("24 are not too many", x.unlike(0, 2, 5), 4);
+        x.points(6);
+        x.way(3, 0);
+        DUE.is("25 solve", x.solved(0, 2, 2, 0), 25);
+        DUE.is("25 are too many", x.unlike(0, 2, 2), -3);
         x.points(7);
+        x.way(0, 1);
+        DUE.is("few solve", x.solved(1, 2, 2, 0), 3);
         DUE.is("n 7", x.unlike(1, 2, 2), -3);
         DUE.is("n 7, m 0", x.unlike(1, 2, 0), -2);
         OrbitDesigns y = Due.of(4);

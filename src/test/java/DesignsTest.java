@@ -67,6 +67,10 @@ public final class DesignsTest {
         DUE.is("no blocks, other K", y.alike(0, 1), 1);
         DUE.is("none and one", y.alike(0, 2), 0);
         DUE.is("other K", y.alike(2, 3), 0);
+        OrbitDesigns s = keeping(7, 3, new int[] {11, 22, 44, 88, 49, 98, 69}, new int[] {13, 26, 52, 104, 81, 35, 70},
+                new int[] {7, 14, 28, 56, 112, 97, 67});
+        DUE.is("n 7, planes", s.alike(0, 1), 1);
+        DUE.is("n 7, a plane and a ring", s.alike(0, 2), 0);
         OrbitDesigns z = Due.of(8);
         DUE.is("n 8, none", z.alike(0, 0), -1);
         z.keep();

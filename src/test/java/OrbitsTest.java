@@ -75,6 +75,7 @@ public final class OrbitsTest {
         DUE.is("empty set alone", x.orbit(0, 0, 1), 1);
         DUE.is("empty set greatest", x.orbit(0, 0, 2), 0);
         DUE.is("whole", x.orbit(5, 0, 2), 31);
+        DUE.is("whole of 8", Due.of(8).orbit(8, 0, 2), 255);
         DUE.is("k 6", x.orbit(6, 9, 9), -2);
         DUE.is("k -1", x.orbit(-1, 0, 0), -2);
         DUE.is("i 2", x.orbit(2, 2, 0), -1);

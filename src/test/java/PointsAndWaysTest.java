@@ -165,6 +165,12 @@ public final class PointsAndWaysTest {
         DUE.is("the last", doing(x, 0), 21345);
         DUE.is("a new one", x.way(1, 0), 1);
         DUE.is("does", doing(x, 1), 15432);
+        x.drop(1);
+        x.way(0, 7);
+        x.drop(1);
+        x.hand(54321);
+        DUE.is("by hand where a way was", x.wayOf(1, 1), 0);
+        DUE.is("its kind", x.wayOf(1, 0), 5);
         DUE.is("the other as it was", doing(x, 0), 21345);
     }
 

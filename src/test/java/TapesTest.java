@@ -36,6 +36,7 @@ public final class TapesTest {
         DUE.is("stays", x.peek(0, 4), 0);
         DUE.is("nothing, n 99", x.tape(0, -1, 99), 1);
         DUE.is("nothing there", x.item(0, 0, 1), -11);
+        DUE.is("nothing to peek at", x.peek(0, 0), NO);
         DUE.is("nothing, n -9", x.tape(1, -1, -9), 1);
         DUE.is("nothing there", x.item(1, 0, 1), -11);
     }

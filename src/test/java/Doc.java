@@ -18,13 +18,21 @@ final class Doc {
         return Files.isReadable(PLACE);
     }
 
-    static Map<String, String> sections() {
-        String all;
+    private static String all() {
         try {
-            all = Files.readString(PLACE);
+            return Files.readString(PLACE);
         } catch (IOException e) {
             throw new UncheckedIOException(e);
         }
+    }
+
+    /** 'The public face', line by line. */
+    static String face() {
+        return between(all(), "## The public face", "## Terms");
+    }
+
+    static Map<String, String> sections() {
+        String all = all();
         Map<String, String> sections = new LinkedHashMap<>();
         String terms = between(all, "## Terms", "## Promise 1:");
         sections.put("Terms 1", plain(between(terms, "==== 1", "==== 2")));
